@@ -420,6 +420,14 @@ public final class PerilSeat {
         return (bits >> at & 1) != 0;
     }
 
+    private static int behind(int seat, int seats) {
+        return seat + 1 < seats ? seat + 1 : 0;
+    }
+
+    private static int ahead(int seat, int seats) {
+        return seat > 0 ? seat - 1 : seats - 1;
+    }
+
     /** Whether a KIND is the one asked for, or under it. */
     private static boolean isOfKind(int[] over, int kind, int asked) {
         int at = kind;
@@ -470,10 +478,14 @@ public final class PerilSeat {
         return one != NONE && other != NONE && has(told.enemies[one], other);
     }
 
+    private int whoSitsBehind(int seat) {
+        return now.whoSitsOn(behind(seat, told.seats));
+    }
+
     private int quarrels() {
         int quarrels = 0;
         for (int seat = 0; seat < told.seats; seat++) {
-            if (areEnemies(now.whoSitsOn(seat), now.whoSitsOn(told.behind(seat)))) {
+            if (areEnemies(now.whoSitsOn(seat), whoSitsBehind(seat))) {
                 quarrels++;
             }
         }
@@ -486,8 +498,8 @@ public final class PerilSeat {
             if (seat == NONE || has(taken, knight)) {
                 continue;
             }
-            boolean quarrels = areEnemies(knight, now.whoSitsOn(told.behind(seat)))
-                    || areEnemies(knight, now.whoSitsOn(told.ahead(seat)));
+            boolean quarrels = areEnemies(knight, whoSitsBehind(seat))
+                    || areEnemies(knight, now.whoSitsOn(ahead(seat, told.seats)));
             now.renown[knight] = quarrels
                     ? Math.max(0, now.renown[knight] - 1)
                     : Math.min(MOST_RENOWN, now.renown[knight] + 1);
@@ -498,7 +510,7 @@ public final class PerilSeat {
     private void spreadNews() {
         for (int knight = 0; knight < told.knights; knight++) {
             int seat = now.place[knight];
-            int teller = seat == NONE ? NONE : now.whoSitsOn(told.behind(seat));
+            int teller = seat == NONE ? NONE : whoSitsBehind(seat);
             heard[knight] = teller == NONE ? 0 : now.news[teller];
         }
         for (int knight = 0; knight < told.knights; knight++) {
@@ -886,14 +898,6 @@ public final class PerilSeat {
             return sides / 2;
         }
 
-        int behind(int seat) {
-            return seat + 1 < seats ? seat + 1 : 0;
-        }
-
-        int ahead(int seat) {
-            return seat > 0 ? seat - 1 : seats - 1;
-        }
-
         int perilOn(int day) {
             return perilFrom(perilSeat, perilStep, day);
         }
@@ -1217,9 +1221,7 @@ public final class PerilSeat {
         }
 
         private int besides(int seat) {
-            int behind = seat + 1 < seats ? seat + 1 : 0;
-            int ahead = seat > 0 ? seat - 1 : seats - 1;
-            return 1 << behind | 1 << ahead;
+            return 1 << behind(seat, seats) | 1 << ahead(seat, seats);
         }
     }
 }

@@ -115,6 +115,16 @@ public final class FeastTest {
         for (int k = 0; k < 5; k++) {
             C.due("later renown of " + k, x.knight(k, 1), later[k]);
         }
+        for (int seat = 0; seat < 5; seat++) {
+            PerilSeat pair = Checks.told("table 5;squire 4 4;squire 4 4;squire 4 4;enemies 0 1;peril 0 0");
+            pair.sit(0, seat);
+            pair.sit(1, (seat + 1) % 5);
+            pair.sit(2, (seat + 3) % 5);
+            pair.feast();
+            C.due("his enemy is behind " + seat, pair.knight(0, 1), 3);
+            C.due("his enemy is ahead of him", pair.knight(1, 1), 3);
+            C.due("no enemy beside him", pair.knight(2, 1), 5);
+        }
         PerilSeat ring = Checks.told("table 3;peril 1 0;knight 4 4;knight 4 4;enemies 0 1");
         ring.sit(0, 0);
         ring.sit(1, 2);

@@ -6,6 +6,7 @@ public final class ForetoldTest {
     public static void main(String[] args) {
         howMany();
         noneThere();
+        oneGone();
         enemies();
         first();
         fewestMoved();
@@ -48,6 +49,28 @@ public final class ForetoldTest {
         C.due("the empty row", x.seatings(), 1);
         C.due("nobody moves", x.moved(), 0);
         C.due("nobody knows", x.knows(0), 0);
+    }
+
+    /** Who was taken is passed over, be he the first, one between, or the last. */
+    private static void oneGone() {
+        for (int gone = 0; gone < 3; gone++) {
+            PerilSeat x = Checks.told("table 4;peril 0 0;knight 1 1;knight 2 2;knight 3 3;enemies 0 2;enemies 0 1");
+            for (int k = 0; k < 3; k++) {
+                x.tell(k, k);
+            }
+            x.sit(gone, 0);
+            x.feast();
+            C.due("two on three seats, " + gone + " gone", x.seatings(), gone == 0 ? 6 : 2);
+            C.due("both are to sit", x.moved(), 2);
+            C.due("he who is gone", x.knows(gone), 0);
+            C.due("one who is there", x.knows((gone + 1) % 3), gone == 0 ? 2 : 1);
+            int[] first = gone == 0 ? new int[] {NONE, 1, 2} : gone == 1 ? new int[] {1, NONE, 3} : new int[] {1, 3, NONE};
+            for (int k = 0; k < 3; k++) {
+                C.due("the first, " + gone + " gone", x.seatOf(k), first[k]);
+            }
+            x.sit((gone + 1) % 3, 2);
+            C.due("one sits in the midst", x.moved(), gone == 0 ? 1 : 2);
+        }
     }
 
     private static void enemies() {
@@ -99,6 +122,17 @@ public final class ForetoldTest {
         x.sit(1, 3);
         x.sit(2, 1);
         C.due("all sit well", x.moved(), 0);
+        PerilSeat zero = Checks.told("table 3;squire 1 1;squire 2 2;squire 3 3");
+        zero.sit(0, 0);
+        C.due("he may stay on 0", zero.moved(), 2);
+        zero.sit(1, 2);
+        C.due("and he on the last", zero.moved(), 1);
+        zero.rise();
+        zero.sit(1, 0);
+        C.due("or the other on 0", zero.moved(), 2);
+        zero.sit(0, 1);
+        zero.sit(2, 2);
+        C.due("all sit", zero.moved(), 0);
         C.due("none", Checks.told("table 3;mourning 0;mourning 1;mourning 2;king 1 1").moved(), NONE);
         C.due("no table", new PerilSeat().moved(), 0);
     }
@@ -124,6 +158,26 @@ public final class ForetoldTest {
         C.due("0 on 2, 1 on 0", z.seatings(), 1);
         C.due("he on 2 hears of 0, behind the last", z.knows(1), 2);
         C.due("he on 0 does not hear of 2", z.knows(0), 1);
+        // Seats 0, 1, 3 by their houses: who knows on 0 and who on 1 make him on 3 and nobody else hear.
+        PerilSeat ring = Checks.told("table 4;kin 0 1;kin 1 2;mourning 2;kin 3 4;peril 2 0;knight 0 1;knight 0 2;"
+            + "knight 0 4");
+        ring.tell(0, 0);
+        C.due("0 is heard on 3", ring.knows(0), 2);
+        ring.tell(1, 1);
+        C.due("1 is heard on 0", ring.knows(1), 2);
+        ring.tell(2, 2);
+        C.due("3 is heard by nobody", ring.knows(2), 1);
+        ring.tell(0, 3);
+        ring.tell(1, 3);
+        C.due("both and he on 3", ring.knows(3), 3);
+        PerilSeat three = Checks.told("table 5;kin 0 1;kin 1 2;mourning 2;kin 3 3;kin 4 4;peril 2 0;knight 0 1;"
+            + "knight 0 2;knight 0 3;knight 0 4");
+        three.tell(0, 0);
+        three.tell(3, 0);
+        C.due("0 and 4 know, 3 hears of 4", three.knows(0), 3);
+        three.tell(1, 1);
+        three.tell(0, 1);
+        C.due("0 and 1 know, 4 hears of 0", three.knows(1), 3);
         z.sit(0, 2);
         z.sit(1, 0);
         z.feast();

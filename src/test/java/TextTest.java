@@ -9,6 +9,7 @@ public final class TextTest {
         faultsOfForm();
         faultsOfNumbers();
         faultsOfKnightsAndSeats();
+        faultsOneAfterAnother();
         clauses();
         laterTexts();
         tableWithFault();
@@ -72,6 +73,11 @@ public final class TextTest {
         fault("Peace", 0);
         fault("peAce", 0);
         fault("pea ce", 0);
+        fault("peacez", 0);
+        fault("peace{", 5);
+        fault("peace`", 5);
+        fault("table 3/", 7);
+        fault("table 3:", 7);
         fault("5", 0);
         fault("peace;lance 3", 6);
         fault("peace\t", 5);
@@ -157,6 +163,18 @@ public final class TextTest {
         fault(FULL_TABLE + ";meant 6", seventh + 6);
     }
 
+    /** A text that is only read, or erased, leaves nothing for the next one. */
+    private static void faultsOneAfterAnother() {
+        PerilSeat x = Checks.told("table 3;knight 1 1");
+        C.due("only read", Checks.fault(x, "table 8;knight 1 1;knight 1 1"), PerilSeat.NONE);
+        C.due("there are 3 seats yet", Checks.fault(x, "gold 3 1"), 5);
+        C.due("there is 1 knight yet", Checks.fault(x, "meant 1"), 6);
+        C.due("the others are there", Checks.fault(x, "gold 2 1;meant 0"), PerilSeat.NONE);
+        Checks.fault(x, ";knight 1 1".repeat(5).substring(1));
+        C.due("five more can come", Checks.fault(x, ";knight 1 1".repeat(5).substring(1)), PerilSeat.NONE);
+        C.due("six more cannot", Checks.fault(x, ";knight 1 1".repeat(6).substring(1)), 55);
+    }
+
     private static void clauses() {
         PerilSeat x = new PerilSeat();
         C.due("clauses", Checks.table(x, "table 5;gold 1 5;meek 2 3;kin 3 7;mourning 4;knight 4 7;squire 6 2;king 0 1;"
@@ -218,8 +236,10 @@ public final class TextTest {
         C.due("meant stays", x.judge(0), 0);
 
         Checks.table(x, "table 6");
-        C.due("all open", x.seat(1, 0), 0);
-        C.due("all open, 0", x.seat(1, 1), 0);
+        for (int seat = 0; seat < 6; seat++) {
+            C.due("all open", x.seat(seat, 0), 0);
+            C.due("all open, 0", x.seat(seat, 1), 0);
+        }
         C.due("no knights", x.count(1), 0);
         C.due("nobody there", x.count(4), 0);
         C.due("no enemies", x.count(7), 0);
