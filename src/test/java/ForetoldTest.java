@@ -122,6 +122,7 @@ public final class ForetoldTest {
         x.sit(1, 3);
         x.sit(2, 1);
         C.due("all sit well", x.moved(), 0);
+        C.due("six are to sit", Checks.told("table 8" + ";knight 1 1".repeat(6)).moved(), 6);
         PerilSeat zero = Checks.told("table 3;squire 1 1;squire 2 2;squire 3 3");
         zero.sit(0, 0);
         C.due("he may stay on 0", zero.moved(), 2);
