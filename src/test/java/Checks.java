@@ -1,25 +1,54 @@
+import java.util.function.Consumer;
+import java.util.function.ToLongFunction;
+
 /** What the tests share: tells each call whose answer is not the one that is due, and ends with 1 if there was one. */
 final class Checks {
     private int wrong;
     private int asked;
+    private int askedAhead;
+    private String sentence = "";
 
     void due(String call, long got, long want) {
-        asked++;
-        if (got != want) {
-            wrong++;
-            System.out.println(call + " answered " + got + ", due is " + want);
-        }
+        due(call, String.valueOf(got), String.valueOf(want));
     }
 
     void due(String call, String got, String want) {
         asked++;
         if (!got.equals(want)) {
             wrong++;
-            System.out.println(call + " answered " + got + ", due is " + want);
+            System.out.println(sentence + call + " answered " + got + ", due is " + want);
         }
     }
 
+    /**
+     * What is asked from here on tests this sentence of the document, in its words: of that promise, or, by 0, of what
+     * stands ahead of the promises. SentencesTest sees to it that no sentence of the document is left out.
+     */
+    void sentence(int promise, String words) {
+        closeSentence();
+        sentence = promise + " \"" + words + "\": ";
+        askedAhead = asked;
+    }
+
+    private void closeSentence() {
+        if (!sentence.isEmpty() && asked == askedAhead) {
+            wrong++;
+            System.out.println(sentence + "nothing was asked");
+        }
+    }
+
+    /** The call is refused so, and nothing changes: all is answered later as by an object that it was not asked of. */
+    void refused(String call, Consumer<PerilSeat> ahead, ToLongFunction<PerilSeat> asking, long want) {
+        PerilSeat x = new PerilSeat();
+        ahead.accept(x);
+        due(call, asking.applyAsLong(x), want);
+        PerilSeat other = new PerilSeat();
+        ahead.accept(other);
+        due(call + ", what is answered later,", Calls.everything(x), Calls.everything(other));
+    }
+
     void end() {
+        closeSentence();
         System.out.println(asked + " answers looked at, " + wrong + " not as due");
         if (wrong != 0) {
             System.exit(1);
