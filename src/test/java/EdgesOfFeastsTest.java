@@ -363,6 +363,8 @@ public final class EdgesOfFeastsTest {
         goToLastDay(x);
         C.due("day 999", x.count(2), 999);
         C.due("its peril", x.count(3), (2 + 7 * 999) % 5);
+        C.due("seen on it", x.seen(0, 0, 999, 0), 1);
+        C.due("seen behind it", x.seen(0, 0, 1000, 0), O);
         x.rise();
         C.due("nobody sits, too", x.feast(), N);
         x.undo();

@@ -94,6 +94,9 @@ public final class EdgesOfForetoldTest {
             x.sit((gone + 1) % 4, 0);
             x.feast();
             C.due("two on two seats", x.seatings(), 2);
+            C.due("two are to sit", x.moved(), 2);
+            x.tell((gone + 2) % 4, 0);
+            C.due("who knows can sit on 2, where he on 1 hears him", x.knows(0), 2);
         }
     }
 
@@ -164,6 +167,10 @@ public final class EdgesOfForetoldTest {
         enemies.sit(0, 0);
         enemies.sit(1, 3);
         C.due("one of two enemies", enemies.moved(), 1);
+        PerilSeat others = Checks.told(squires(5, 2) + ";enemies 0 1");
+        others.sit(0, 2);
+        others.sit(1, 3);
+        C.due("one of two enemies in the midst", others.moved(), 1);
         PerilSeat gone = Checks.told("table 3;knight 1 1;squire 1 1");
         gone.sit(0, 0);
         gone.feast();
@@ -200,6 +207,16 @@ public final class EdgesOfForetoldTest {
         wrap.tell(1, 1);
         C.due("the last hears of 0", wrap.knows(0), 2);
         C.due("0 does not hear of the last", wrap.knows(1), 1);
+        PerilSeat side = Checks.told("table 4;kin 0 1;kin 1 2;mourning 2;mourning 3;squire 1 1;squire 2 2");
+        side.tell(0, 0);
+        side.tell(1, 1);
+        C.due("1 does not hear of 0", side.knows(0), 1);
+        C.due("0 hears of 1", side.knows(1), 2);
+        PerilSeat two = Checks.told("table 6;kin 0 1;kin 2 2;kin 3 3;kin 5 5;mourning 1;mourning 4;squire 1 1;squire 1 2;"
+            + "squire 1 3;squire 1 5");
+        two.tell(0, 0);
+        two.tell(2, 0);
+        C.due("the last hears of 0, and 2 of 3", two.knows(0), 4);
         PerilSeat gone = Checks.told("table 3;knight 1 1;squire 1 1");
         gone.tell(0, 2);
         gone.sit(0, 0);

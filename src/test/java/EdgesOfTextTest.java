@@ -63,6 +63,13 @@ public final class EdgesOfTextTest {
         C.due("three seats", y.count(0), 3);
         PerilSeat z = written(" ".repeat(153) + "table 33");
         C.due("the 161st is not", z.table(), 1);
+        fault(" ".repeat(156) + "tabl", 156);
+        fault(" ".repeat(155) + "table", 160);
+        fault(" ".repeat(159) + "k", 159);
+        PerilSeat cut = written("table 3");
+        cut.erase();
+        Checks.write(cut, "tabl");
+        C.due("what was erased is not read", cut.fault(), 0);
     }
 
     private static void clauses() {
@@ -188,6 +195,8 @@ public final class EdgesOfTextTest {
         fault("knight 1 1;enemies 0 0", 21);
         fault("enemies 0 0", 8);
         C.due("told twice, one pair", Checks.told(AHEAD + "enemies 0 1;enemies 1 0").count(7), 1);
+        PerilSeat x = Checks.told(AHEAD + "enemies 1 0");
+        C.due("either's enemy, whichever is told first", x.knight(0, 3) * 10 + x.knight(1, 3), 21);
     }
 
     private static void perils() {
@@ -246,6 +255,10 @@ public final class EdgesOfTextTest {
         C.due("one more knight", Checks.fault(x, "meant 2"), 6);
         C.due("he comes by this text", Checks.fault(x, "knight 1 1;meant 2"), NONE);
         C.due("a text that was only read told nothing", Checks.fault(x, "meant 2"), 6);
+        C.due("more seats by this text", Checks.fault(x, "table 8;gold 7 1"), NONE);
+        C.due("it was only read, too", Checks.fault(x, "gold 7 1"), 5);
+        C.due("fewer seats by this text", Checks.fault(x, "table 3;gold 3 1"), 13);
+        C.due("four are there yet", Checks.fault(x, "gold 3 1"), NONE);
     }
 
     private static void lettersAndDigits() {

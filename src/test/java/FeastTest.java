@@ -10,7 +10,6 @@ public final class FeastTest {
         whoIsTaken();
         renown();
         news();
-        lastDay();
         undoing();
         undoEachCall();
         keeping();
@@ -157,30 +156,21 @@ public final class FeastTest {
         C.due("nobody", x.knight(3, 5), 9);
     }
 
-    /** Further than an object is used (512 calls), for no run within that can come to DAY 999. */
-    private static void lastDay() {
-        PerilSeat x = Checks.told("table 3;peril 2 1;squire 1 1");
-        for (int day = 0; day < 999; day++) {
-            x.sit(0, 0);
-            x.feast();
+    /** Each of the last eight of twelve calls, undone, leaves all as an object has it that was never asked so much. */
+    private static void undoing() {
+        for (int left = 8; left >= 0; left--) {
+            PerilSeat x = withCalls(12);
+            for (int can = 7; can >= left; can--) {
+                C.due("undo", x.undo(), can);
+            }
+            C.due("as it was", withoutUndo(Checks.state(x)), withoutUndo(Checks.state(withCalls(4 + left))));
+            C.due("can be undone yet", x.count(8), left);
         }
-        C.due("the last day", x.count(2), 999);
-        C.due("its peril", x.count(3), 2);
-        C.due("NOT ahead of FULL", x.feast(), N);
-        x.sit(0, 0);
-        String was = Checks.state(x);
-        C.due("FULL", x.feast(), PerilSeat.FULL);
-        C.due("nothing changes", Checks.state(x), was);
-        C.due("seen on it", x.seen(0, 0, 999, 0), 1);
-        C.due("seen behind it", x.seen(0, 0, 1000, 0), O);
     }
 
-    private static void undoing() {
+    private static PerilSeat withCalls(int calls) {
         PerilSeat x = Checks.told("table 4;peril 1 1;squire 1 1;knight 9 9");
-        C.due("none", x.undo(), N);
-        String[] states = new String[12];
-        for (int i = 0; i < 12; i++) {
-            states[i] = Checks.state(x);
+        for (int i = 0; i < calls; i++) {
             if (i % 4 == 0) {
                 x.sit(0, 2);
             } else if (i % 4 == 1) {
@@ -190,17 +180,11 @@ public final class FeastTest {
             } else {
                 x.rise();
             }
-            C.due("can be undone", x.count(8), Math.min(8, i + 1));
         }
-        for (int left = 7; left >= 0; left--) {
-            C.due("undo", x.undo(), left);
-            String was = states[4 + left];
-            // What can be undone differs, as it must, so it is left out here.
-            C.due("as it was", withoutUndo(Checks.state(x)), withoutUndo(was));
-        }
-        C.due("the ninth", x.undo(), N);
+        return x;
     }
 
+    /** What can be undone differs, as it must, so it is left out. */
     private static String withoutUndo(String state) {
         String[] parts = state.split(" ");
         parts[8] = "";

@@ -3,6 +3,8 @@ import java.util.Random;
 /** Random runs of calls, each answer compared with the slow oracle's; promises 1 to 28. */
 public final class OracleTest {
     private static final Checks CHECKS = new Checks();
+    /** An object is used for so many calls. */
+    private static final int MOST_CALLS = 512;
     private static final String[] WORDS = {"table", "gold", "meek", "kin", "mourning", "knight", "squire", "king",
         "enemies", "peril", "meant", "peace"};
 
@@ -26,10 +28,10 @@ public final class OracleTest {
         if (seed % 3 != 0) {
             told(fineText());
         }
-        while (calls < 480) {
+        while (calls < MOST_CALLS) {
             step();
             // What is asked often costs the oracle much; what changes is asked for in full now and then.
-            if (random.nextInt(40) == 0) {
+            if (random.nextInt(40) == 0 && calls < MOST_CALLS - 84) {
                 whole();
             }
         }
@@ -148,6 +150,9 @@ public final class OracleTest {
     }
 
     private void told(String text) {
+        if (calls + text.length() + 3 > MOST_CALLS) {
+            return;
+        }
         due("erase", x.erase(), o.erase());
         for (int i = 0; i < text.length(); i++) {
             due("write", x.write(text.charAt(i)), o.write(text.charAt(i)));
